@@ -1142,7 +1142,7 @@ public final class PaySteer {
     /** A contest of two for a prize. */
     private static final class Contest {
         static final int MOST_HEADS = 99;
-        private static final int MOST_EFFORT = 8;
+        private static final int EFFORTS = 9;
 
         private final int[] costs = {1, 1};
         private final int[] heads = new int[2];
@@ -1162,11 +1162,9 @@ public final class PaySteer {
 
         int howManyCalm() {
             int many = 0;
-            for (int mine = 0; mine <= MOST_EFFORT; mine++) {
-                for (int yours = 0; yours <= MOST_EFFORT; yours++) {
-                    if (isCalm(mine, yours)) {
-                        many++;
-                    }
+            for (int both = 0; both < EFFORTS * EFFORTS; both++) {
+                if (isCalm(both / EFFORTS, both % EFFORTS)) {
+                    many++;
                 }
             }
             return many;
@@ -1174,14 +1172,12 @@ public final class PaySteer {
 
         int calmAt(int place) {
             int many = 0;
-            for (int mine = 0; mine <= MOST_EFFORT; mine++) {
-                for (int yours = 0; yours <= MOST_EFFORT; yours++) {
-                    if (isCalm(mine, yours)) {
-                        if (many == place) {
-                            return 10 * mine + yours;
-                        }
-                        many++;
+            for (int both = 0; both < EFFORTS * EFFORTS; both++) {
+                if (isCalm(both / EFFORTS, both % EFFORTS)) {
+                    if (many == place) {
+                        return 10 * (both / EFFORTS) + both % EFFORTS;
                     }
+                    many++;
                 }
             }
             return NONE;
@@ -1192,7 +1188,7 @@ public final class PaySteer {
         }
 
         private boolean isContent(int who, int own, int other) {
-            for (int effort = 0; effort <= MOST_EFFORT; effort++) {
+            for (int effort = 0; effort < EFFORTS; effort++) {
                 if (left(who, effort, other) > left(who, own, other)) {
                     return false;
                 }

@@ -109,7 +109,7 @@ public final class ActsTest {
         Due.is("the other act", x.gain(0, 0), 12);
         Due.is("chances(1, 1, 0xc00)", x.chances(1, 1, 0xc00), 0);
         Due.is("gain(1, 1)", x.gain(1, 1), 3600);
-        int[] bad = {0, 0x344, 0x346, 0x1344, 0xc000, 0x10000345, 0x80000345, -1, MIN, MAX, 0xcc, 11, 13};
+        int[] bad = {0, 0x344, 0x346, 0x1344, 0x1345, 0xc000, 0x10000345, 0x80000345, -1, MIN, MAX, 0xcc, 11, 13};
         for (int row : bad) {
             Due.is("chances(1, 0, " + row + ")", x.chances(1, 0, row), -2);
         }
@@ -126,10 +126,12 @@ public final class ActsTest {
         Due.is("four sights", four.chances(0, 0, 0x4233), 0);
         Due.is("four sights' gain", four.gain(0, 0), 28);
         Due.is("a fifth digit", four.chances(0, 0, 0x14222), -2);
+        Due.is("a fifth digit beside 12", four.chances(0, 0, 0x14233), -2);
         PaySteer two = new PaySteer(0);
         two.act(0);
         Due.is("two sights", two.chances(0, 0, 0x66), 0);
         Due.is("a third digit", two.chances(0, 0, 0x165), -2);
+        Due.is("a third digit beside 12", two.chances(0, 0, 0x166), -2);
     }
 
     private static void promise5() {

@@ -156,6 +156,8 @@ public final class EdgesOfLeastPayTest {
         gainIsJustTheReserve();
         gainIsJustTheOthers();
         theFirstWorldOfTheSetIsWeighed();
+        theSecondWorldIsFirstInItsOwnSet();
+        allActsInBothWorlds();
         ofSeveralTheLeastAtSight0();
         ofTheseTheLeastAtSight1();
         fractionsHaveNoCommonDivisor();
@@ -221,6 +223,44 @@ public final class EdgesOfLeastPayTest {
         leastIs(x, 0, 3, -1, 12, 1);
         leastIs(x, 0, 3, 0, 12, 1);
         leastIs(x, 0, 3, 1, 12, 1);
+    }
+
+    private static void theSecondWorldIsFirstInItsOwnSet() {
+        Due.by("Promise 11: the first WORLD of the set: of set 2 it is WORLD 1");
+        PaySteer x = withActs(2, 12);
+        x.chances(0, 0, 0xc0);
+        x.chances(0, 1, 0x66);
+        // 6 a + 6 b is 144: all have a mean of 12 in world 1, 24 and 0 would have the least in world 0.
+        leastIs(x, 0, 2, -1, 12, 1);
+        leastIs(x, 0, 2, 0, 0, 1);
+        leastIs(x, 0, 2, 1, 24, 1);
+        // In both worlds: 12 b is 144 in world 0, then a is the rest.
+        leastIs(x, 0, 3, -1, 12, 1);
+        leastIs(x, 0, 3, 0, 12, 1);
+        leastIs(x, 0, 3, 1, 12, 1);
+    }
+
+    private static void allActsInBothWorlds() {
+        Due.by("Promise 11: not less than each other ACT, in each WORLD: 4 ACTS, 4 SIGHTS, both WORLDS");
+        PaySteer x = withActs(4, 12, 9, 6, 0);
+        for (int a = 0; a < 4; a++) {
+            x.chances(a, 0, 12 << 4 * a);
+            x.chances(a, 1, 12 << 4 * a);
+        }
+        // Each is seen for itself: to be as good as the others the pay of sight 0 must be 12.
+        leastIs(x, 0, 3, 0, 12, 1);
+        leastIs(x, 0, 3, 1, 0, 1);
+        x.chances(1, 1, 0x00c);
+        // In world 1 act 1 is seen as act 0 is, and costs less.
+        Due.is("least(0, 3, 0, 0)", x.least(0, 3, 0, 0), NO);
+        x.cost(1, 12);
+        leastIs(x, 0, 3, -1, 12, 1);
+        x.chances(3, 1, 0x1b);
+        // Act 3 has 11 of 12 of sight 0 in world 1: 12 a - 11 a must be 144.
+        leastIs(x, 0, 3, -1, 144, 1);
+        leastIs(x, 0, 1, -1, 12, 1);
+        leastIs(x, 0, 2, -1, 144, 1);
+        leastIs(x, 3, 3, -1, 0, 1);
     }
 
     private static void ofSeveralTheLeastAtSight0() {
@@ -333,6 +373,7 @@ public final class EdgesOfLeastPayTest {
 
     private static void proof() {
         sharesAre0OrMore();
+        chancesAreJustThoseOfTheAct();
         sharesAreTogether1();
         theSumIsBelowItsCost();
         theLeastSuchSum();
@@ -348,10 +389,42 @@ public final class EdgesOfLeastPayTest {
         proofIs(x, 1, 0, 0, 1, 1);
         proofIs(x, 1, 0, 2, 0, 1);
         proofIs(x, 1, 0, -1, 1, 1);
+        // Twice act 1 less act 3 would cost just 5.
+        PaySteer y = withActs(3, 28, 5, 8, 5);
+        y.chances(0, 0, 0x543);
+        y.chances(1, 0, 0x354);
+        y.chances(2, 0, 0x543);
+        y.chances(3, 0, 0x165);
+        proofIs(y, 0, 0, 1, 0, 1);
+        proofIs(y, 0, 0, 2, 1, 1);
+        proofIs(y, 0, 0, 3, 0, 1);
+        proofIs(y, 0, 0, -1, 8, 1);
+    }
+
+    private static void chancesAreJustThoseOfTheAct() {
+        Due.by("Promise 12: CHANCES of these ACTS, times their SHARES, are together just those of the ACT");
+        // Two thirds of act 1 and a third of act 3 would be nearly those, for 1.
+        PaySteer x = withActs(4, 20, 1, 2, 1);
+        x.chances(0, 0, 0x5331);
+        x.chances(1, 0, 0x6321);
+        x.chances(2, 0, 0x4341);
+        x.chances(3, 0, 0x4251);
+        proofIs(x, 0, 0, 1, 1, 2);
+        proofIs(x, 0, 0, 2, 1, 2);
+        proofIs(x, 0, 0, 3, 0, 1);
+        proofIs(x, 0, 0, -1, 3, 2);
     }
 
     private static void sharesAreTogether1() {
-        Due.by("Promise 12: SHARES: together 1; CHANCES times their SHARES are just those of the ACT");
+        Due.by("Promise 12: SHARES: together 1");
+        // Act 0 six times would have more than enough of both sights, for 0.
+        PaySteer y = withActs(2, 0, 6, 10);
+        y.chances(0, 0, 0x1b);
+        y.chances(1, 0, 0x66);
+        y.chances(2, 0, 0xc0);
+        proofIs(y, 1, 0, 0, 6, 11);
+        proofIs(y, 1, 0, 2, 5, 11);
+        proofIs(y, 1, 0, -1, 50, 11);
         PaySteer x = between(6);
         proofIs(x, 1, 0, 0, 1, 2);
         proofIs(x, 1, 0, 2, 1, 2);

@@ -552,6 +552,7 @@ public final class EdgesOfOffersTest {
         ofTheseTheLeastAhead();
         ofTheseTheLeastIfGood();
         ofTheseTheLeastIfBad();
+        theGreatestPromises();
         firstWhatIs0To3();
         firstLikewise();
     }
@@ -587,6 +588,14 @@ public final class EdgesOfOffersTest {
         firstIs(withTerms(0, 0, 6, 6, 0), 2, 4, 0, 0, 2, 6);
         firstIs(withTerms(0, 0, 4, 4, 0), 2, 4, 0, 0, 0, 6);
         firstIs(withTerms(0, 0, 0, 0, 0), 2, 4, 0, 0, 0, 4);
+    }
+
+    private static void theGreatestPromises() {
+        Due.by("Part 4: promised worth u, d (0 .. 12)");
+        firstIs(withTerms(0, 0, 0, 0, 0), 3, 12, 0, 0, 0, 12);
+        firstIs(withTerms(0, 0, 12, 12, 0), 3, 12, 0, 0, 12, 0);
+        firstIs(withTerms(0, 0, 6, 6, 0), 3, 12, 0, 0, 12, 12);
+        firstIs(withTerms(1, 1, 6, 6, 0), 3, 12, 0, 3, 10, 10);
     }
 
     private static void ofTheseTheLeastIfBad() {
@@ -638,6 +647,7 @@ public final class EdgesOfOffersTest {
         Due.is("more with 0", x.start(3), 0);
         x.terms(0, 3, 3, 9, 13);
         Due.is("more with 3", x.start(3), 3);
+        Due.is("asked ahead of all else", withTerms(0, 3, 3, 9, 13).start(3), 3);
     }
 
     private static void theGreatestSumMayBeBelow0() {

@@ -203,26 +203,19 @@ public final class EdgesOfTasksTest {
         Due.is("worth 2", with(0, 2, 2).rates(0), 0);
         Due.is("worth 3", with(0, 3, 3).rates(0), 202);
         Due.is("worth 1", with(0, 1, 1).rates(1), 0);
+        Due.is("worth 3, just x", with(0, 3, 0).rates(1), 200);
+        Due.is("worth 3, just y", with(0, 0, 3).rates(2), 2);
     }
 
     private static void ratesUpTo40() {
         Due.by("Promise 46: rates (0 .. 40)");
+        // Both do 8 for 16 and 8 k each; by a tie of 4 that is too much, and 40 each still moves x 4 and y 8.
+        int[] due = {1616, 2424, 3232, 4040, 4040, 16, 16, 16, 16, 16};
         for (int k = 0; k <= 9; k++) {
-            PaySteer p = with(k, 99, 99);
-            int found = p.rates(0);
-            int most = kept(p, found / 100, found % 100);
-            for (int both = 0; both < 41 * 41; both++) {
-                int now = kept(p, both / 41, both % 41);
-                int told = 100 * (both / 41) + both % 41;
-                Due.that("k " + k + ": " + told + " is no better than " + found, now < most || now == most && told >= found);
-            }
+            Due.is("k " + k + ", worth 99 each", with(k, 99, 99).rates(0), due[k]);
         }
-    }
-
-    /** What the one who hires has with two rates, if each effort is worth 99. */
-    private static int kept(PaySteer p, int rateX, int rateY) {
-        int done = p.doesBoth(rateX, rateY);
-        return (99 - rateX) * (done / 10) + (99 - rateY) * (done % 10);
+        Due.is("k 4, 40 and 40", with(4, 0, 0).doesBoth(40, 40), 48);
+        Due.is("k 3, 40 and 40", with(3, 0, 0).doesBoth(40, 40), 88);
     }
 
     private static void seenIs0To2() {

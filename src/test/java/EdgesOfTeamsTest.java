@@ -47,6 +47,7 @@ public final class EdgesOfTeamsTest {
         sharesAre24TogetherAtMost();
         aCostOfNoMember();
         aShareOfNoMember();
+        whatAllGetStays();
         aBadTeamChangesNothing();
     }
 
@@ -138,6 +139,19 @@ public final class EdgesOfTeamsTest {
             for (int digits : new int[] {1 << 28, 1 << 30, MIN, -1}) {
                 Due.is(n + ": " + digits, x.team(n, 0, digits), -2);
             }
+        }
+    }
+
+    private static void whatAllGetStays() {
+        Due.by("Promise 23: a TEAM is told; what all get stays as it was told");
+        PaySteer x = new PaySteer(0);
+        for (int k = 0; k <= 4; k++) {
+            x.all(k, 5 + k);
+        }
+        x.team(4, 0, 0);
+        x.team(2, 0, 0);
+        for (int k = 0; k <= 4; k++) {
+            Due.is("all(" + k + ", 0)", x.all(k, 0), 5 + k);
         }
     }
 
@@ -494,7 +508,7 @@ public final class EdgesOfTeamsTest {
         lookIs(3, 0, 1, 1);
         PaySteer p = new PaySteer(0);
         for (int f : new int[] {-1, 1000, MIN, MAX}) {
-            Due.is("look(1, " + f + ", 0)", p.look(1, f, 0), NO);
+            Due.is("look(5, " + f + ", 0)", p.look(5, f, 0), NO);
         }
     }
 
@@ -630,6 +644,8 @@ public final class EdgesOfTeamsTest {
         calmAre(rivals(2, 19, 0), "dear for the second", 0, 10);
         calmAre(rivals(18, 99, 0), "dear for both", 0, 1, 10, 11);
         calmAre(rivals(17, 99, 0), "too dear for both", 0);
+        calmAre(rivals(18, 91, 0), "just not too dear for the first", 1);
+        calmAre(rivals(18, 19, 0), "just not too dear for the second", 10);
     }
 
     private static void noneIsCalm() {

@@ -19,16 +19,16 @@ public final class LanguageTest {
         "\\btransient\\b", "\\bnative\\b", "\\bprotected\\b", "\\bstatic\\s*\\{", "\\bSystem\\.(?!arraycopy\\b)",
         "\\b(Integer|Long)\\.(?!(bitCount|compare|max|min|abs|MIN_VALUE)\\b)", "\\bequals\\b", "\\bhashCode\\b",
         "\\btoString\\b", "\\bdouble\\b", "\\bfloat\\b", "\\bString\\b", "\\binstanceof\\b"};
-    private static final String FACE = "act(int)int all(int,int)int account(int)long answer(int)int back()int best(int)int "
-            + "bestGain(int,int)long breaks(int)int calm(int)int calms()int chances(int,int,int)int choose(int)int "
-            + "coarser(int,int,int,int)long contest(int,int,int)int contract()int cost(int,int)int count(int)int "
-            + "doesBoth(int,int)int feed(long,int)int first(int,int,int)int gain(int,int)long has(int,int)int "
-            + "holds(int,int)int least(int,int,int,int)long likely(int,int,int)long look(int,int,int)long lot(int)int "
-            + "may(int,int,int,int,int,int)int menu(int,int,int,int,int)int pay(int,int)int promise(int,int)long "
-            + "proof(int,int,int,int)long ratchet(int,int,int,int)int rates(int)int reserve(int)int sign(int)int "
-            + "start(int)int steers(int,int)int suspect(int,int)int tasks(int,int,int)int team(int,int,int)int "
-            + "terms(int,int,int,int,int)int then(int,int)int value(int,int)int work(int,int)int worth(int,int)int "
-            + "year(int)int";
+    private static final String FACE = "act(int)int all(int,int)int account(int)long answer(int)int back()int "
+            + "best(int)int bestGain(int,int)long breaks(int)int calm(int)int calms()int chances(int,int,int)int "
+            + "choose(int)int coarser(int,int,int,int)long contest(int,int,int)int contract()int cost(int,int)int "
+            + "count(int)int doesBoth(int,int)int feed(long,int)int first(int,int,int)int gain(int,int)long "
+            + "has(int,int)int holds(int,int)int least(int,int,int,int)long likely(int,int,int)long "
+            + "look(int,int,int)long lot(int)int may(int,int,int,int,int,int)int menu(int,int,int,int,int)int "
+            + "pay(int,int)int promise(int,int)long proof(int,int,int,int)long ratchet(int,int,int,int)int "
+            + "rates(int)int reserve(int)int sign(int)int start(int)int steers(int,int)int suspect(int,int)int "
+            + "tasks(int,int,int)int team(int,int,int)int terms(int,int,int,int,int)int then(int,int)int "
+            + "value(int,int)int work(int,int)int worth(int,int)int year(int)int";
     private static final Set<String> CONSTANTS = Set.of("NONE", "BAD", "STATE", "FULL", "NO");
 
     private LanguageTest() {
@@ -69,8 +69,9 @@ public final class LanguageTest {
         }
         Due.that("the face is as told: " + has, has.equals(new TreeSet<>(List.of(FACE.split(" ")))));
         for (Field f : PaySteer.class.getDeclaredFields()) {
+            boolean isTold = CONSTANTS.contains(f.getName());
             boolean isConstant = Modifier.isPublic(f.getModifiers()) && isStaticFinal(f);
-            Due.that(f + " is as told", CONSTANTS.contains(f.getName()) ? isConstant : Modifier.isPrivate(f.getModifiers()));
+            Due.that(f + " is as told", isTold ? isConstant : Modifier.isPrivate(f.getModifiers()));
         }
         Due.is("constructors", PaySteer.class.getDeclaredConstructors().length, 1);
         Due.that("final", Modifier.isFinal(PaySteer.class.getModifiers()));

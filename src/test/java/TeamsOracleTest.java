@@ -105,9 +105,9 @@ public final class TeamsOracleTest {
     }
 
     private static void checkLooks() {
-        PaySteer x = new PaySteer(0);
         Random random = new Random(1);
         for (int turn = 0; turn < 2000; turn++) {
+            PaySteer x = new PaySteer(0);
             int hidden = 1 + random.nextInt(turn % 2 == 0 ? 999 : 12);
             int fine = random.nextInt(turn % 3 == 0 ? 1000 : 12);
             Fraction due = Fraction.of(hidden).by(Fraction.of(hidden + fine));

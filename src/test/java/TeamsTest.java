@@ -42,7 +42,8 @@ public final class TeamsTest {
         for (int n : noTeams) {
             Due.is("team of " + n, x.team(n, 0, 0), -2);
         }
-        int[] badCosts = {100, digits(0, 100), digits(0, 127), digits(0, 0, 1), digits(0, 0, 0, 1), 1 << 28, -1, MIN, MAX};
+        int[] badCosts = {100, digits(0, 100), digits(0, 127), digits(0, 0, 1), digits(0, 0, 0, 1), 1 << 28, -1, MIN,
+            MAX};
         for (int bad : badCosts) {
             Due.is("costs " + bad, x.team(2, bad, 0), -2);
         }

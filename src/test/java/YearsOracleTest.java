@@ -3,7 +3,7 @@ import java.util.ArrayList;
 import java.util.List;
 import java.util.Random;
 
-/** Promises 37 to 47 against another way to work them out. */
+/** Promises 37 to 47 against another way to work them out; no object is used for more than 512 calls. */
 public final class YearsOracleTest {
     /** What is known of a year that went by. */
     private record Year(int act, int sight, int paid, int value, int lotAhead, int lot) {
@@ -13,7 +13,7 @@ public final class YearsOracleTest {
     }
 
     public static void main(String[] args) {
-        for (long seed = 0; seed < 300; seed++) {
+        for (long seed = 0; seed < 1200; seed++) {
             checkYears(seed);
         }
         for (long seed = 0; seed < 60; seed++) {
@@ -44,7 +44,9 @@ public final class YearsOracleTest {
             }
         }
         List<Year> years = new ArrayList<>();
-        for (int turn = 0; turn < 130; turn++) {
+        // Either few years, each of them looked at, or so many that there is no room for more.
+        boolean isLong = seed % 2 == 0;
+        for (int turn = 0; turn < (isLong ? 68 : 27); turn++) {
             int k = random.nextInt(4);
             values[k] = random.nextInt(199) - 99;
             x.value(k, values[k]);
@@ -52,14 +54,16 @@ public final class YearsOracleTest {
             x.pay(k, pays[k]);
             int reserve = random.nextInt(6);
             x.reserve(reserve);
-            if (random.nextInt(4) == 0) {
+            if (random.nextInt(isLong ? 30 : 4) == 0) {
                 int due = years.isEmpty() ? -1 : years.size() - 1;
                 Due.is("seed " + seed + ": back()", x.back(), due);
                 lot = years.isEmpty() ? lot : years.remove(years.size() - 1).lotAhead();
             } else {
                 lot = passes(x, seed, random.nextInt(2), lot, reserve, pays, values, chances, years);
             }
-            look(x, seed, years, chances, random);
+            if (!isLong || turn % 12 == 11) {
+                look(x, seed, years, chances, random);
+            }
         }
         Due.is("seed " + seed + ": lot", x.lot(0), lot);
     }
@@ -148,9 +152,11 @@ public final class YearsOracleTest {
         int[] best = {0, 0, 0};
         int[] most = {Integer.MIN_VALUE, Integer.MIN_VALUE, Integer.MIN_VALUE};
         for (int rateX = 40; rateX >= 0; rateX--) {
+            PaySteer doing = new PaySteer(0);
+            doing.tasks(k, worthX, worthY);
             for (int rateY = 40; rateY >= 0; rateY--) {
                 int both = does(k, rateX, rateY);
-                Due.is("k " + k + ": doesBoth(" + rateX + ", " + rateY + ")", x.doesBoth(rateX, rateY), both);
+                Due.is("k " + k + ": doesBoth(" + rateX + ", " + rateY + ")", doing.doesBoth(rateX, rateY), both);
                 int kept = (worthX - rateX) * (both / 10) + (worthY - rateY) * (both % 10);
                 for (int seen = 0; seen < 3; seen++) {
                     boolean may = seen == 0 || seen == 1 && rateY == 0 || seen == 2 && rateX == 0;
@@ -167,8 +173,8 @@ public final class YearsOracleTest {
     }
 
     private static void checkRatchets() {
-        PaySteer x = new PaySteer(0);
         for (int all = 0; all < 2 * 41 * 10; all++) {
+            PaySteer x = new PaySteer(0);
             int kind = all / 410;
             int rate = all / 10 % 41;
             int step = all % 10;

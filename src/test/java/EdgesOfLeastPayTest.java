@@ -160,6 +160,7 @@ public final class EdgesOfLeastPayTest {
         allActsInBothWorlds();
         ofSeveralTheLeastAtSight0();
         ofTheseTheLeastAtSight1();
+        ofTheseTheLeastAtTheLastSight();
         fractionsHaveNoCommonDivisor();
     }
 
@@ -295,6 +296,36 @@ public final class EdgesOfLeastPayTest {
         leastIs(y, 1, 1, 0, 0, 1);
         leastIs(y, 1, 1, 1, 6, 1);
         leastIs(y, 1, 1, 2, 0, 1);
+    }
+
+    private static void ofTheseTheLeastAtTheLastSight() {
+        Due.by("Promise 11: then at SIGHT 1, and so on: at the last one, too");
+        // In world 0 act 2 does not come to sight 3: for its mean of 28 the pay there may be 24 or more.
+        PaySteer x = withActs(4, 2, 0, 4);
+        x.chances(0, 0, 0x0417);
+        x.chances(0, 1, 0x1452);
+        x.chances(1, 0, 0x2523);
+        x.chances(1, 1, 0x2244);
+        x.chances(2, 0, 0x0372);
+        x.chances(2, 1, 0x2154);
+        leastIs(x, 2, 3, -1, 28, 1);
+        leastIs(x, 2, 3, 0, 0, 1);
+        leastIs(x, 2, 3, 1, 48, 1);
+        leastIs(x, 2, 3, 2, 0, 1);
+        leastIs(x, 2, 3, 3, 24, 1);
+        // Here act 0 needs nothing at sight 3.
+        PaySteer y = withActs(4, 6, 2, 4);
+        y.chances(0, 0, 0x0228);
+        y.chances(0, 1, 0x2406);
+        y.chances(1, 0, 0x6600);
+        y.chances(1, 1, 0x2064);
+        y.chances(2, 0, 0x2424);
+        y.chances(2, 1, 0x2424);
+        leastIs(y, 0, 3, -1, 9, 1);
+        leastIs(y, 0, 3, 0, 12, 1);
+        leastIs(y, 0, 3, 1, 0, 1);
+        leastIs(y, 0, 3, 2, 6, 1);
+        leastIs(y, 0, 3, 3, 0, 1);
     }
 
     private static void fractionsHaveNoCommonDivisor() {
